@@ -652,7 +652,7 @@ public final class TongueCamp {
         final int[] verb = new int[LINES];
         final int[] amount = new int[LINES];
         final int[] tests = new int[LINES];
-        final boolean[] negated = new boolean[LINES * TESTS];
+        final int[] negated = new int[LINES * TESTS];
         final int[] asked = new int[LINES * TESTS];
         final int[] sign = new int[LINES * TESTS];
         final int[] bound = new int[LINES * TESTS];
@@ -673,7 +673,7 @@ public final class TongueCamp {
                 return;
             }
             int at = line * TESTS + index;
-            negated[at] = isNegated;
+            negated[at] = isNegated ? 1 : 0;
             asked[at] = itsAsked;
             sign[at] = itsSign;
             bound[at] = itsBound;
@@ -713,7 +713,7 @@ public final class TongueCamp {
         private boolean allHold(int line, int has, Child child, Moment moment) {
             for (int index = 0; index < tests[line]; index++) {
                 int at = line * TESTS + index;
-                if (isTrue(at, has, child, moment) == negated[at]) {
+                if (isTrue(at, has, child, moment) == (negated[at] == 1)) {
                     return false;
                 }
             }
@@ -1553,11 +1553,13 @@ public final class TongueCamp {
             sumHalf(lowSum, 0);
             sumHalf(highSum, HALF);
             int good = 0;
-            int end = 1 << marked;
-            for (int set = (1 << ofOne) - 1; set < end; set = setAfter(set, end)) {
+            int sets = countSets();
+            int set = (1 << ofOne) - 1;
+            for (int i = 0; i < sets; i++) {
                 if (lowSum[set & 255] + highSum[set >> HALF & 255] >= gainOfOne) {
                     good++;
                 }
+                set = setAfter(set);
             }
             return good;
         }
@@ -1572,11 +1574,11 @@ public final class TongueCamp {
             }
         }
 
-        /** The next greater number with as many bits: always above the set, and the end behind the last. */
-        private static int setAfter(int set, int end) {
+        /** The next greater number with as many bits. */
+        private static int setAfter(int set) {
             int lowest = set & -set;
             if (lowest == 0) {
-                return end;
+                return 0;
             }
             int carried = set + lowest;
             return (carried ^ set) / lowest >> 2 | carried;

@@ -110,6 +110,7 @@ public final class LevelsTest {
     private static void wrongNumbers() {
         TongueCamp x = levels(1, 2, 3);
         Check.due("g 0", x.groups(0, 1, 3), -1);
+        Check.due("g 0 of nobody", new TongueCamp().groups(0, 1, 1), -1);
         Check.due("g 7", x.groups(7, 1, 3), -1);
         Check.due("g -1", x.groups(-1, 1, 3), -1);
         Check.due("x 0", x.groups(1, 0, 3), -1);
