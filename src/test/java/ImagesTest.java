@@ -145,6 +145,24 @@ public final class ImagesTest {
         Check.due("one", x.count(0), 1);
         x.again(0);
         Check.due("two now", x.count(0), 2);
+        // Numbers that were used otherwise in between are told as the image has them.
+        TongueCamp y = new TongueCamp();
+        y.image(0);
+        y.child(2, 10, true);
+        y.cabin(3);
+        y.helper(1);
+        y.image(1);
+        y.again(0);
+        y.child(4, 12, false);
+        y.cabin(5);
+        y.helper(0);
+        y.watch(1, 1, 0);
+        y.again(1);
+        Check.due("tongue", y.tell(0, 0), 2);
+        Check.due("age", y.tell(0, 1), 10);
+        Check.due("shy", y.tell(0, 2), 1);
+        Check.due("beds", y.count(2), 3);
+        Check.due("nights of the helper", y.watch(1, 1, 0), -1);
         // What was made behind an image is gone with it: a new child, host or bar begins anew.
         x.host();
         x.like(0, 1, 7);

@@ -112,6 +112,10 @@ public final class LevelsTest {
         Check.due("g 0", x.groups(0, 1, 3), -1);
         Check.due("g 0 of nobody", new TongueCamp().groups(0, 1, 1), -1);
         Check.due("g 7", x.groups(7, 1, 3), -1);
+        TongueCamp many = levels(1, 2, 3, 4, 5, 6, 7, 8, 9);
+        Check.due("g 7 of nine", many.groups(7, 1, 9), -1);
+        Check.due("g 6 of nine", many.groups(6, 1, 9), 30);
+        inGroups(many, "g 6 of nine", 0, 1, 2, 3, 4, 5, 5, 5, 5);
         Check.due("g -1", x.groups(-1, 1, 3), -1);
         Check.due("x 0", x.groups(1, 0, 3), -1);
         Check.due("x above y", x.groups(1, 3, 2), -1);

@@ -91,6 +91,12 @@ public final class TapeTest {
         faulty("gains 5;", 1, 0);
         faulty("gai n 5;", 1, 0);
         faulty("stopstop;", 1, 0);
+        faulty("stopz;", 1, 0);
+        faulty("astop;", 1, 0);
+        faulty("xtop;", 1, 0);
+        faulty("stox;", 1, 0);
+        faulty("{", 1, 0);
+        faulty("`", 1, 0);
         faulty("helpers;", 1, 0);
         faulty("i", 1, 0);
         faulty("ifown:stop;", 1, 0);
@@ -166,6 +172,8 @@ public final class TapeTest {
         faulty(times("stop;", 18), 3, 80);
         faulty(times("stop;", 17) + "stop", 1, 89);
         faulty(times("stop;", 16) + "own", 1, 80);
+        faulty(times("stop;", 100), 3, 80);
+        fits(times("gain 1;", 16) + times(" ", 388), 16);
         fits("if own and own and own and own:stop;", 1);
         faulty("if own and own and own and own and own:stop;", 3, 35);
         faulty("if own and own and own and own and not own:stop;", 3, 35);

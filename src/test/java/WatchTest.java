@@ -80,6 +80,11 @@ public final class WatchTest {
             Check.due("at hand is what was", x.watcher(0) * 10 + x.watcher(1), 12);
             Check.due("two nights at hand", x.watcher(2), -1);
         }
+        TongueCamp six = helped(0, 0, 0, 0, 0, 0);
+        Check.due("w 4 of six", six.watch(1, 4, 0), -1);
+        Check.due("w 0 of six", six.watch(1, 0, 0), -1);
+        Check.due("k 3 of six", six.watch(1, 1, 3), -1);
+        Check.due("n 15 of six", six.watch(15, 1, 0), -1);
         x.helper(0);
         Check.due("a new helper changes nothing", x.watcher(1), 2);
     }
@@ -138,6 +143,9 @@ public final class WatchTest {
         Check.due("one child: pairs", many(1).met(2, 2, 1, 0), 0);
         Check.due("one child: fewest", many(1).met(2, 2, 1, 1), 0);
         Check.due("one child: most", many(1).met(2, 2, 1, 2), 0);
+        // Round 0 of three children at two seats: 0 1 | 2.
+        Check.due("last meets nobody", many(3).met(2, 2, 1, 1), 0);
+        Check.due("first meets most", many(3).met(2, 2, 1, 2), 1);
         // Held against the plain words of the document.
         Check.due("9 at 3 times 3", many(9).met(3, 3, 3, 0), bruteMet(9, 3, 3, 3));
         Check.due("24 at 5 times 5", many(24).met(5, 5, 20, 0), bruteMet(24, 5, 5, 20));
