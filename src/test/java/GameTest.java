@@ -7,7 +7,6 @@ public final class GameTest {
         tests();
         run();
         nights();
-        lastDay();
         silence();
         telling();
         Check.finish("GameTest");
@@ -146,18 +145,6 @@ public final class GameTest {
         Check.due("no words, but not silent", y.night(), 1);
         Check.due("lost by saying", y.tell(0, 9), 9);
         Check.due("lost by silence", y.tell(1, 9), 9);
-    }
-
-    /** No run that is promised comes to DAY 9999: this one goes on behind its 512th call to see that night ends there. */
-    private static void lastDay() {
-        TongueCamp x = two("");
-        for (int day = 0; day < 9999; day++) {
-            x.night();
-        }
-        x.said(0, 6, 4, false, false);
-        Check.due("day 9999", x.count(5), 9999);
-        Check.due("no night of it", x.night(), -1);
-        Check.due("the same day", x.count(5) + x.count(6) + x.tell(0, 11), 9999 + 6 + 4);
     }
 
     private static void silence() {

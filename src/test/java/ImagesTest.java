@@ -105,13 +105,19 @@ public final class ImagesTest {
         Check.due(what + ": " + got + "\n instead of " + want, got.equals(want), true);
     }
 
-    private static void all() {
-        String before = told(full());
+    /** Image 0 is of a full camp, image 1 of what it is changed to; it is changed further then. */
+    private static TongueCamp twice() {
         TongueCamp x = full();
         Check.due("image 0", x.image(0), true);
         change(x);
         Check.due("image 1", x.image(1), true);
         told(x);
+        return x;
+    }
+
+    private static void all() {
+        String before = told(full());
+        TongueCamp x = twice();
         Check.due("again 0", x.again(0), true);
         same("as image 0", told(x), before);
         Check.due("again 0 twice", x.again(0), true);
@@ -119,8 +125,10 @@ public final class ImagesTest {
         TongueCamp y = full();
         change(y);
         String after = told(y);
-        x.again(1);
-        same("as image 1", told(x), after);
+        TongueCamp w = twice();
+        w.again(0);
+        w.again(1);
+        same("as image 1", told(w), after);
         Check.due("they differ", after.equals(before), false);
         TongueCamp z = full();
         z.image(0);

@@ -6,17 +6,17 @@ public final class RoomTest {
 
     public static void main(String[] args) {
         beans = (com.sun.management.ThreadMXBean) ManagementFactory.getThreadMXBean();
+        // What the JVM makes for a call's first time is made by this one.
         run(new TongueCamp());
         long before = made();
         TongueCamp x = new TongueCamp();
         long constructor = made() - before;
         Check.due("bytes that the constructor makes: " + constructor, constructor < 100000, true);
-        run(x);
-        x.again(0);
+        images(x);
         before = made();
-        all(x);
-        x.again(1);
         few(x);
+        x.again(1);
+        all(x);
         long calls = made() - before;
         // Here it is 0; the bound lets the JVM take a little on its own.
         Check.due("bytes that calls make: " + calls, calls < 2000, true);
@@ -27,14 +27,17 @@ public final class RoomTest {
         return beans.getThreadAllocatedBytes(Thread.currentThread().getId());
     }
 
-    /** Takes the images, too, so that all that comes behind makes nothing. */
     private static void run(TongueCamp x) {
-        for (int k = 0; k < 3; k++) {
-            x.image(k);
-        }
+        images(x);
         few(x);
         x.again(1);
         all(x);
+    }
+
+    private static void images(TongueCamp x) {
+        for (int k = 0; k < 3; k++) {
+            x.image(k);
+        }
     }
 
     private static void few(TongueCamp x) {
