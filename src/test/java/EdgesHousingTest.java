@@ -16,7 +16,10 @@ public final class EdgesHousingTest {
         refusedHouse();
         noStep();
         stepByFive();
+        stepByOne();
         stepByNothing();
+        stepsOfShyOnes();
+        exchangesOfShyOnes();
         stepOfThoseInNone();
         stepToFreeBeds();
         stepOrder();
@@ -228,6 +231,18 @@ public final class EdgesHousingTest {
         z.cabin(1);
         Check.due("shy ones, not as far", z.house(), 15);
         told("shy ones, not as far", z, 0, 0);
+        // The third makes the first one less lonely, though the second, who isn't shy, came between.
+        TongueCamp v = Check.camp(Check.row(0, 10, 1), Check.row(1, 13, 0), Check.row(2, 10, 1));
+        v.cabin(3);
+        v.cabin(3);
+        v.lie(0, 1);
+        Check.due("shy ones, one between", v.house(), 0);
+        told("shy ones, one between", v, 0, 1, 0);
+        TongueCamp u = Check.camp(Check.row(0, 10, 1), Check.row(1, 11, 0), Check.row(2, 8, 1));
+        u.cabin(3);
+        u.cabin(3);
+        Check.due("three years from the one between", u.house(), 5);
+        told("three years from the one between", u, 0, 0, 0);
         // A barred one goes to the bed behind, too.
         TongueCamp w = Camps.cabins(2, 2, 1);
         w.bar(0, 1);
@@ -274,6 +289,29 @@ public final class EdgesHousingTest {
         told("nothing to be less", y, 0, 0);
     }
 
+    /** Two shy ones, so many years apart, of cabins of two beds and of one. */
+    private static TongueCamp shyTwo(int apart, int first) {
+        TongueCamp x = Check.camp(Check.row(0, 8, 1), Check.row(1, 8 + apart, 1));
+        x.cabin(2);
+        x.cabin(1);
+        lies(x, first, 0);
+        return x;
+    }
+
+    /** Of years 25, of two lonely ones 24: less by 1. */
+    private static void stepByOne() {
+        TongueCamp x = shyTwo(7, 0);
+        Check.due("apart is 1 less than 7 years", x.step(), 1);
+        told("apart", x, 1, 0);
+        Check.due("better() by 1", shyTwo(7, 0).better(), 1);
+        Check.due("7 years, apart as they are", shyTwo(7, 1).step(), 0);
+        Check.due("6 years, together as they are", shyTwo(6, 0).step(), 0);
+        TongueCamp y = shyTwo(6, 1);
+        Check.due("together is 4 less than apart", y.step(), 4);
+        told("together", y, 0, 0);
+        Check.due("better() by 4", shyTwo(6, 1).better(), 1);
+    }
+
     private static void stepByNothing() {
         // 0 and 1 cost 5 in cabin 0; with 2, who is as old as 1 and of its tongue, 0 would cost 5, and 1 would 30.
         TongueCamp x = Check.camp(Check.row(0, 10, 0), Check.row(1, 13, 0), Check.row(1, 13, 0));
@@ -290,6 +328,55 @@ public final class EdgesHousingTest {
         lies(y, 0, 1);
         Check.due("lonely both ways", y.step(), 0);
         told("lonely both ways", y, 0, 1);
+    }
+
+    /** A camp of children of given tongues, some shy, all of one age, and where they lie; then the step that is due. */
+    private static void shyStep(String what, int due, String tongues, String shy, String from, String to, int... beds) {
+        TongueCamp x = new TongueCamp();
+        for (int b : beds) {
+            x.cabin(b);
+        }
+        for (int i = 0; i < tongues.length(); i++) {
+            x.child(tongues.charAt(i) - '0', 10, shy.charAt(i) == 's');
+            x.lie(i, from.charAt(i) - '0');
+        }
+        int before = x.cost(-1);
+        Check.due(what, x.step(), due);
+        for (int i = 0; i < tongues.length(); i++) {
+            Check.due(what + ": cabin of " + i, x.tell(i, 3), to.charAt(i) - '0');
+        }
+        Check.due(what + ": cost", x.cost(-1), before - due);
+    }
+
+    /** "12 for each SHY one that is the only SHY one there", where one moves: out of one, two, three, to none, one, two. */
+    private static void stepsOfShyOnes() {
+        shyStep("the only one moves", 30, "00", "s.", "00", "10", 2, 1);
+        shyStep("the other moves", 30, "00", ".s", "00", "10", 2, 1);
+        shyStep("one of two moves", 6, "00", "ss", "00", "10", 2, 1);
+        shyStep("one of three moves", 18, "001", "sss", "000", "100", 3, 1);
+        shyStep("one of four moves", 18, "0012", "ssss", "0000", "1000", 4, 1);
+        shyStep("who isn't shy moves, not one of two", 30, "010", "ss.", "000", "001", 3, 1);
+        shyStep("one comes to one", 24, "01", "ss", "01", "11", 1, 2);
+        shyStep("one comes to two", 12, "012", "sss", "011", "111", 1, 3);
+        shyStep("one of two comes to none", 0, "01", "ss", "00", "00", 2, 2);
+        shyStep("who isn't shy comes to none", 0, "01", "s.", "01", "01", 2, 2);
+        shyStep("one of three to one", 12, "0123", "ssss", "0001", "1001", 3, 2);
+        shyStep("three and none", 0, "0123", "sss.", "0001", "0001", 3, 2);
+    }
+
+    private static void exchangesOfShyOnes() {
+        shyStep("one and one: 0 and 3", 24, "0123", "s.s.", "0011", "1010", 2, 2);
+        shyStep("one and one: 0 and 2", 24, "0123", "s..s", "0011", "1001", 2, 2);
+        shyStep("two and one", 0, "0123", "sss.", "0011", "0011", 2, 2);
+        shyStep("three and one", 12, "01234", "ssss.", "00011", "10010", 3, 2);
+        shyStep("one and two", 12, "01234", ".s.ss", "00111", "01011", 2, 3);
+        shyStep("none and one", 0, "0123", "...s", "0011", "0011", 2, 2);
+        shyStep("none and two", 0, "0123", "..ss", "0011", "0011", 2, 2);
+        shyStep("three and three", 0, "012345", "ssssss", "000111", "000111", 3, 3);
+        shyStep("two and two", 0, "0123", "ssss", "0011", "0011", 2, 2);
+        shyStep("tongues and shy ones", 54, "0012", "s.s.", "0011", "1010", 2, 2);
+        shyStep("a tongue apart, two lonely for it", 6, "0012", "ss..", "0011", "1001", 2, 2);
+        shyStep("alone in both", 0, "01", "ss", "01", "01", 1, 1);
     }
 
     private static void stepOfThoseInNone() {

@@ -18,6 +18,8 @@ public final class EdgesImagesTest {
         imagesStay();
         eachThingComesBack();
         imagesAreNoPart();
+        numbersUsedOtherwise();
+        fewerThanThereWere();
         fullCampComesBack();
         Check.finish("EdgesImagesTest");
     }
@@ -209,6 +211,9 @@ public final class EdgesImagesTest {
             Check.due(what + " is another one", is != was, true);
             Check.due(what + ": again(" + k + ")", x.again(k), true);
             Check.due(what + " behind again(" + k + ")", told.applyAsInt(x), was);
+            change.applyAsInt(x);
+            Check.due(what + ": again(" + k + ") once more", x.again(k), true);
+            Check.due(what + " behind it once more", told.applyAsInt(x), was);
             x.again((k + 1) % 3);
             Check.due(what + " as changed", told.applyAsInt(x), is);
         }
@@ -283,6 +288,86 @@ public final class EdgesImagesTest {
         Check.due("image 2", x.count(0), 1);
         x.again(0);
         Check.due("image 0", x.count(0), 0);
+    }
+
+    /** A number that was another child's, cabin's or helper's in between is told as the image has it. */
+    private static void numbersUsedOtherwise() {
+        TongueCamp x = new TongueCamp();
+        x.image(0);
+        x.child(2, 9, true);
+        x.cabin(3);
+        x.helper(1);
+        x.host();
+        x.image(1);
+        x.again(0);
+        x.child(4, 17, false);
+        x.cabin(5);
+        x.helper(0);
+        x.watch(1, 1, 0);
+        x.image(2);
+        for (int times = 0; times < 2; times++) {
+            x.again(1);
+            Check.due("tongue of image 1", x.tell(0, 0), 2);
+            Check.due("age of image 1", x.tell(0, 1), 9);
+            Check.due("shy of image 1", x.tell(0, 2), 1);
+            Check.due("beds of image 1", x.count(2), 3);
+            Check.due("hosts of image 1", x.count(4), 1);
+            Check.due("no plan of image 1", x.watcher(0), -1);
+            Check.due("nights off of image 1", x.watch(1, 1, 0), -1);
+            x.again(2);
+            Check.due("tongue of image 2", x.tell(0, 0), 4);
+            Check.due("age of image 2", x.tell(0, 1), 17);
+            Check.due("shy of image 2", x.tell(0, 2), 0);
+            Check.due("beds of image 2", x.count(2), 5);
+            Check.due("hosts of image 2", x.count(4), 0);
+            Check.due("plan of image 2", x.watcher(0), 1);
+            Check.due("nights off of image 2", x.watch(1, 1, 0), 1);
+        }
+    }
+
+    /** What was planned for more children is nothing to fewer of them; and who comes then begins anew. */
+    private static void fewerThanThereWere() {
+        TongueCamp x = Check.camp(Check.row(0, 10, 1));
+        x.cabin(1);
+        x.host();
+        x.image(0);
+        for (int i = 1; i < 6; i++) {
+            x.child(0, 10, true);
+            x.cabin(1);
+            x.host();
+            x.bar(0, i);
+            x.like(i, i, 9);
+            x.like(0, i, 9);
+            x.lie(i, i);
+            x.task(i, 5, true);
+            x.task(i, 4, false);
+            x.mark(i, 0, 9, 1);
+        }
+        Check.game(x, "gain 5;");
+        x.said(1, 20, 9, true, true);
+        x.night();
+        x.said(1, 20, 9, true, true);
+        Check.due("six given", x.give(), 6045);
+        Check.due("six groups", x.groups(6, 1, 1), 150);
+        Check.due("six housed", x.house(), 72);
+        Check.due("six, the least", x.least(), 72);
+        Check.due("of six", x.held(0), 1);
+        x.again(0);
+        Check.due("one given", x.give(), 1000);
+        Check.due("one group", x.groups(1, 1, 1), 100);
+        Check.due("one housed", x.house(), 12);
+        Check.due("one, the least", x.least(), 12);
+        Check.due("of none", x.held(1), 1);
+        Check.due("no two groups of one", x.groups(2, 1, 1), -1);
+        Check.due("the next child", x.child(1, 17, false), 1);
+        int[] due = {1, 17, 0, -1, 0, 10, 0, 5, -1, 10, 0, 0, -1, 0};
+        for (int what = 0; what < due.length; what++) {
+            Check.due("of the next child, " + what, x.tell(1, what), due[what]);
+        }
+        Check.due("it has no marks", x.count(11), 0);
+        Check.due("nobody is barred from it", x.bar(1, 0), true);
+        x.host();
+        Check.due("nobody likes it", x.give(), 2000);
     }
 
     /** The last child, cabin, helper, host, line and byte come back, too. */

@@ -319,6 +319,13 @@ public final class EdgesLevelsTest {
         for (int i = 0; i < 5; i++) {
             Check.due("place of " + i, x.tell(i, 8), due[i]);
         }
+        // The levels change, and the row with them: sums 11, 10, 9, 10, 20.
+        x.task(4, 10, true);
+        Check.due("another row", x.groups(5, 1, 1), 10 * (1 + 10 + 1 + 4 + 1) + 2);
+        int[] then = {3, 1, 0, 2, 4};
+        for (int i = 0; i < 5; i++) {
+            Check.due("place of " + i + " then", x.tell(i, 8), then[i]);
+        }
         TongueCamp y = levels(10, 0, 10, 0, 9, 1);
         y.groups(6, 1, 1);
         int[] ends = {4, 0, 5, 1, 3, 2};

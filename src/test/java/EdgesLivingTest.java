@@ -171,6 +171,19 @@ public final class EdgesLivingTest {
         Check.due("another pair of one of them", x.bar(0, 2), true);
         Check.due("and the third", x.bar(1, 0), true);
         Check.due("three pairs", x.count(8), 3);
+        // One that is barred from many is so from each of them.
+        TongueCamp y = Camps.cabins(5, 5);
+        for (int other : new int[] {3, 0, 4, 1}) {
+            Check.due("2 and " + other, y.bar(Math.min(2, other), Math.max(2, other)), true);
+        }
+        for (int other : new int[] {3, 0, 4, 1}) {
+            Check.due("2 and " + other + " are", y.bar(2, other), false);
+            Check.due(other + " and 2 are", y.bar(other, 2), false);
+        }
+        for (int child = 0; child < 5; child++) {
+            y.lie(child, 0);
+        }
+        Check.due("four pairs cost", y.cost(0), 1200);
     }
 
     private static void bars30() {

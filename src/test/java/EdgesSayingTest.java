@@ -15,6 +15,7 @@ public final class EdgesSayingTest {
         tokensLineByLine();
         stops();
         testsOfYesAndNo();
+        testsOfEachLine();
         wordsAsked();
         hoursAsked();
         daysAsked();
@@ -220,6 +221,33 @@ public final class EdgesSayingTest {
                     are[i] ? 1 : 10);
                 Check.due("not " + tests[i] + " of " + bits,
                     two("if not " + tests[i] + ":set 1;").said(child, 0, 5, are[0], are[1]), are[i] ? 10 : 1);
+            }
+        }
+    }
+
+    /** Whatever LINE it is and wherever a TEST stands in it, it is asked, negated or not, with its sign and its number. */
+    private static void testsOfEachLine() {
+        String[] tests = {"not own", "hour>5", "not helper", "words=7"};
+        for (int line = 0; line < 16; line++) {
+            for (int turn = 0; turn < 4; turn++) {
+                StringBuilder text = new StringBuilder("lose 0;".repeat(line)).append("if ").append(tests[turn]);
+                for (int i = 1; i < 4; i++) {
+                    text.append(" and ").append(tests[(turn + i) % 4]);
+                }
+                String game = text.append(":gain 9;").append("lose 0;".repeat(15 - line)).toString();
+                String what = "line " + line + ", turn " + turn + ": ";
+                Check.due(what + "all hold", two(game).said(0, 6, 7, false, false), 19);
+                Check.due(what + "own", two(game).said(0, 6, 7, true, false), 10);
+                Check.due(what + "hour 5", two(game).said(0, 5, 7, false, false), 10);
+                Check.due(what + "to a helper", two(game).said(0, 6, 7, false, true), 10);
+                Check.due(what + "6 words", two(game).said(0, 6, 6, false, false), 10);
+                Check.due(what + "8 words", two(game).said(0, 6, 8, false, false), 10);
+                TongueCamp x = two(game);
+                x.image(1);
+                Check.game(x, "");
+                x.again(1);
+                Check.due(what + "of an image", x.said(0, 6, 7, false, false), 19);
+                Check.due(what + "of an image, 8 words", x.said(0, 6, 8, false, false), 19);
             }
         }
     }
@@ -507,6 +535,11 @@ public final class EdgesSayingTest {
         int[] due = {5, 17, 1, -1, 0, 10, 0, 5, -1, 10, 0, 0, -1, 0};
         for (int what = 0; what < due.length; what++) {
             Check.due("tell(0, " + what + ") at first", x.tell(0, what), due[what]);
+        }
+        x.child(0, 8, false);
+        int[] other = {0, 8, 0, -1, 0, 10, 0, 5, -1, 10, 0, 0, -1, 0};
+        for (int what = 0; what < other.length; what++) {
+            Check.due("tell(1, " + what + ") at first", x.tell(1, what), other[what]);
         }
         for (int what : new int[] {LEAST, -100, -2, -1, 14, 15, 100, MOST}) {
             Check.due("tell(0, " + what + ")", x.tell(0, what), -100);

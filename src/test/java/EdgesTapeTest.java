@@ -327,7 +327,9 @@ public final class EdgesTapeTest {
             faulty(before[i] + word.substring(0, word.length() - 1), 1, place);
             faulty(before[i] + word + word, 1, place);
             faulty(before[i] + word.substring(0, 1) + " " + word.substring(1), 1, place);
-            faulty(before[i] + word.substring(0, word.length() - 1) + "z", 1, place);
+            for (int at = 0; at < word.length(); at++) {
+                faulty(before[i] + word.substring(0, at) + "z" + word.substring(at + 1), 1, place);
+            }
             faulty(before[i] + word, 1, place + word.length());
         }
         faulty("ifown:stop;", 1, 0);

@@ -189,6 +189,9 @@ public final class EdgesWatchTest {
         // The first night takes more, for the second one's sake.
         plan(Camps.helpers(0, 0b10), 2, 1, 1, 2, 1);
         plan(Camps.helpers(0, 0b10, 0b10, 0), 2, 2, 1, 6, 9);
+        plan(Camps.helpers(0, 0b100, 0b100), 3, 1, 2, 2, 4, 1);
+        plan(Camps.helpers(0b1000, 0b1000, 0), 4, 1, 2, 4, 1, 2, 4);
+        plan(Camps.helpers(0b1000, 0, 0b1000), 4, 1, 2, 2, 1, 4, 2);
         // The last night's sake, thirteen nights before.
         plan(Camps.helpers(0, 1 << 13, 0), 14, 1, 1, 1, 2, 1, 2, 1, 2, 1, 2, 1, 2, 1, 2, 1, 4);
         plan(Camps.helpers(0, 1 << 13), 14, 1, 1, 2, 1, 2, 1, 2, 1, 2, 1, 2, 1, 2, 1, 2, 1);
@@ -199,7 +202,16 @@ public final class EdgesWatchTest {
         plan(Camps.helpers(16383), 1, 1, 0);
         plan(Camps.helpers(16382), 1, 1, 0, 1);
         plan(Camps.helpers(16382), 2, 1, 0);
+        plan(Camps.helpers(0b10, 0b10), 2, 1, 0);
+        plan(Camps.helpers(0b100, 0b100, 0b100), 3, 1, 1);
         plan(Camps.helpers(0, 0), 1, 3, 0);
+        // However many plans there are up to the last night.
+        int last = 1 << 13;
+        for (int w = 1; w <= 3; w++) {
+            for (int k = 0; k <= 2; k++) {
+                plan(Camps.helpers(last, last, last, last, last, last), 14, w, k);
+            }
+        }
         plan(Camps.helpers(0, 0, 0), 1, 3, 0, 7);
         plan(Camps.helpers(0, 0, 1), 1, 3, 0);
         plan(Camps.helpers(0, 0, 2), 1, 3, 0, 7);
@@ -217,6 +229,15 @@ public final class EdgesWatchTest {
             Check.due(call, x.watch(n[0], n[1], n[2]), -1);
             Check.due("behind " + call, x.watcher(0) * 100 + x.watcher(1) * 10 + x.watcher(2), 121);
             Check.due("nights behind " + call, x.watcher(3), -1);
+        }
+        // Those that go well for some nights, and then not, leave nothing of what was tried.
+        for (int k = 0; k <= 1; k++) {
+            TongueCamp x = Camps.helpers(0b1000, 0b1000, 0b1000);
+            Check.due("three nights, rest " + k, x.watch(3, 1, k), 3);
+            Check.due("none on the fourth, rest " + k, x.watch(4, 1, k), -1);
+            Check.due("with two, rest " + k, x.watch(4, 2, k), -1);
+            Check.due("as it was, rest " + k, x.watcher(0) * 100 + x.watcher(1) * 10 + x.watcher(2), k == 0 ? 111 : 121);
+            Check.due("no fourth night, rest " + k, x.watcher(3), -1);
         }
     }
 
@@ -314,7 +335,9 @@ public final class EdgesWatchTest {
     private static void rounds() {
         TongueCamp x = Camps.children(9);
         for (int round : new int[] {LEAST, -20, -2, -1, 20, 21, 100, MOST}) {
-            Check.due("table in round " + round, x.table(5, 2, 1, round), -1);
+            for (int child = 0; child < 9; child++) {
+                Check.due("table of " + child + " in round " + round, x.table(5, 2, child, round), -1);
+            }
         }
         for (int round = 0; round <= 19; round++) {
             Check.due("table in round " + round, x.table(5, 2, 1, round), round % 5);
@@ -406,6 +429,11 @@ public final class EdgesWatchTest {
         Check.due("two rounds, pairs", x.met(2, 2, 2, 0), 2);
         Check.due("two rounds, fewest", x.met(2, 2, 2, 1), 1);
         Check.due("two rounds, most", x.met(2, 2, 2, 2), 2);
+        // Round 0: 0 1, 2 3, 4; round 1: 0, 1 2, 3 4; round 2: 0, 2, 1 4, 3.
+        TongueCamp y = Camps.children(5);
+        Check.due("the first has the fewest", y.met(4, 2, 3, 1), 1);
+        Check.due("the second has the most", y.met(4, 2, 3, 2), 3);
+        Check.due("five pairs", y.met(4, 2, 3, 0), 5);
         Check.due("the first has the most at first", Camps.children(5).met(2, 4, 1, 2), 3);
         Check.due("the last has the fewest at first", Camps.children(5).met(2, 4, 1, 1), 0);
     }

@@ -10,7 +10,7 @@ import java.util.function.ToIntFunction;
  */
 final class Refused {
     /** Of more children than so many only some things are told: an object is used for 512 calls at most. */
-    private static final int FEW = 8;
+    private static final int FEW = 9;
     private static final int[] SOME = {3, 5, 9, 11};
     private static final int BLANKS = 0x20202020;
 
@@ -40,6 +40,13 @@ final class Refused {
         }
         Check.due("nothing changes by " + what + ": " + got.get(at) + " instead of " + want.get(at),
             got.equals(want), true);
+    }
+
+    /** All that is told without a change, line by line: a call and its answer. */
+    static List<String> asIs(TongueCamp camp) {
+        Refused teller = new Refused(camp);
+        teller.asIs();
+        return teller.lines;
     }
 
     private List<String> told() {
