@@ -25,9 +25,11 @@ public final class EdgesHousingTest {
         stepOrder();
         stepByLeast();
         stepsOften();
+        manySteps();
         leastOfSeven();
         leastBeds();
         leastOfFew();
+        leastOfShyOnes();
         leastIsTold();
         Check.finish("EdgesHousingTest");
     }
@@ -446,6 +448,16 @@ public final class EdgesHousingTest {
         lies(w, 0, 0, 1);
         Check.due("an exchange as good as a move", w.step(), 30);
         told("the exchange is first", w, 0, 1, 0);
+        // 0 is barred from both in cabin 1: of the moves that are alike the first is 0 to cabin 2, not 1 to cabin 1.
+        TongueCamp v = Check.camp(Check.row(0, 10, 0), Check.row(0, 10, 0), Check.row(1, 10, 0), Check.row(2, 10, 0));
+        v.bar(0, 2);
+        v.bar(0, 3);
+        v.cabin(2);
+        v.cabin(3);
+        v.cabin(1);
+        lies(v, 0, 0, 1, 1);
+        Check.due("by child, then cabin", v.step(), 30);
+        told("by child, then cabin", v, 2, 0, 1, 1);
     }
 
     /** "the first by which COST is least": not the first by which it is less. */
@@ -500,6 +512,46 @@ public final class EdgesHousingTest {
         }
     }
 
+    /** However many steps there are: eight of one tongue in each of three cabins, and three cabins free. */
+    private static void manySteps() {
+        TongueCamp x = eights();
+        TongueCamp y = eights();
+        int steps = 0;
+        int cost = y.cost(-1);
+        Check.due("eight of a tongue, three times", cost, 3 * 28 * 30);
+        for (int less = y.step(); less > 0; less = y.step()) {
+            steps++;
+            cost -= less;
+            Check.due("cost behind step " + steps, y.cost(-1), cost);
+        }
+        Check.due("two of each tongue in two cabins, one in the others", cost, 3 * 2 * 30);
+        Check.due("many steps", steps, 15);
+        Check.due("better() of as many", x.better(), steps);
+        for (int i = 0; i < 24; i++) {
+            Check.due("cabin of " + i + " behind many steps", x.tell(i, 3), y.tell(i, 3));
+        }
+        // Exchanges alone: four of a tongue in each of six cabins without a free bed.
+        TongueCamp z = new TongueCamp();
+        for (int i = 0; i < 24; i++) {
+            z.child(i / 4, 10, false);
+            z.cabin(4);
+            z.lie(i, i / 4);
+        }
+        Check.due("cost of fours", z.cost(-1), 6 * 6 * 30);
+        Check.due("exchanges alone", z.better(), 9);
+        Check.due("no two of a tongue together", z.cost(-1), 0);
+    }
+
+    private static TongueCamp eights() {
+        TongueCamp x = new TongueCamp();
+        for (int i = 0; i < 24; i++) {
+            x.child(i / 8, 10, false);
+            x.cabin(8);
+            x.lie(i, i / 8);
+        }
+        return x;
+    }
+
     // Promise 10: "LEAST. NONE: there are more than 7 CHILDREN, or fewer BEDS than CHILDREN."
 
     private static void leastOfSeven() {
@@ -546,6 +598,24 @@ public final class EdgesHousingTest {
         Check.due("barred ones apart", three.least(), 39);
         three.cabin(1);
         Check.due("each alone", three.least(), 24);
+    }
+
+    /** "in a CABIN no more than it has BEDS": of one shy child more than a cabin has beds one is lonely in the other one. */
+    private static void leastOfShyOnes() {
+        for (int beds = 1; beds <= 6; beds++) {
+            TongueCamp x = new TongueCamp();
+            TongueCamp y = new TongueCamp();
+            for (int i = 0; i <= beds; i++) {
+                x.child(i % 6, 10, true);
+                y.child(i % 6, 10, true);
+            }
+            x.cabin(1);
+            x.cabin(beds);
+            y.cabin(1);
+            y.cabin(beds + 1);
+            Check.due(beds + " beds, one shy one more", x.least(), beds == 1 ? 24 : 12);
+            Check.due("a bed for each of " + (beds + 1), y.least(), beds == 6 ? 12 : 0);
+        }
     }
 
     /** LEAST is told, nobody is laid by it; and no number of steps need come to it. */

@@ -348,6 +348,11 @@ public final class EdgesLevelsTest {
         setSpan(x, 2, 3, 9);
         // The row is 1, 0, 2: neither the first nor the last alone has what is the least and the greatest.
         Check.due("all together", x.groups(1, 3, 3), 80);
+        TongueCamp z = Camps.children(3);
+        setSpan(z, 0, 3, 3);
+        setSpan(z, 1, 0, 8);
+        setSpan(z, 2, 5, 5);
+        Check.due("the widest in the middle of the row", z.groups(1, 3, 3), 80);
         TongueCamp y = Camps.children(2);
         setSpan(y, 0, 0, 10);
         setSpan(y, 1, 5, 6);

@@ -567,8 +567,9 @@ public final class EdgesSayingTest {
         x.child(0, 10, false);
         x.feed(0x6761_696e, 0x2031_3b20, 0x2020_2020, 0x2020_2020, 0x2020_2020);
         x.game();
-        for (int call = 4; call <= 512; call++) {
+        for (int call = 4; call < 512; call++) {
             Check.due("call " + call, x.said(0, 0, 50, true, true), 7 + call);
         }
+        Check.due("call 512: words today", x.tell(0, 11), 508 * 50);
     }
 }

@@ -164,6 +164,16 @@ public final class EdgesWatchTest {
         plan(Camps.helpers(0b1, 0b10), 2, 1, 1, 2, 1);
         plan(Camps.helpers(0b10, 0b1), 2, 1, 1, 1, 2);
         plan(Camps.helpers(0b1, 0b1, 0b10), 2, 1, 1, 4, 1);
+        // Each WATCH begins with all of them rested, whoever watched last by the one before.
+        TongueCamp x = Camps.helpers(0);
+        plan(x, 1, 1, 1, 1);
+        plan(x, 1, 1, 1, 1);
+        plan(x, 1, 1, 2, 1);
+        TongueCamp y = Camps.helpers(0, 0);
+        plan(y, 2, 1, 1, 1, 2);
+        plan(y, 2, 1, 1, 1, 2);
+        plan(y, 2, 2, 0, 3, 3);
+        plan(y, 2, 1, 2, 1, 2);
     }
 
     private static void restsOfTwo() {

@@ -41,15 +41,14 @@ public final class FaceTest {
         for (Field field : face.getDeclaredFields()) {
             boolean isNone = field.getName().equals("NONE");
             Check.due("field " + field.getName(), Modifier.isPrivate(field.getModifiers()), !isNone);
-            Check.due("final " + field.getName(), Modifier.isFinal(field.getModifiers()), true);
+            boolean fixed = Modifier.isFinal(field.getModifiers()) || !Modifier.isStatic(field.getModifiers());
+            Check.due("static and changed: " + field.getName(), fixed, true);
         }
         for (Class<?> inside : face.getDeclaredClasses()) {
             Check.due("static " + inside.getName(), Modifier.isStatic(inside.getModifiers()), true);
-            for (Method method : inside.getDeclaredMethods()) {
-                boolean both = Modifier.isPrivate(method.getModifiers()) && names.contains(method.getName());
-                Check.due("private " + inside.getName() + "." + method.getName(), both, false);
-            }
+            Check.due("hidden " + inside.getName(), Modifier.isPublic(inside.getModifiers()), false);
         }
+        Check.due("NONE", TongueCamp.NONE, -1);
         Check.finish("FaceTest");
     }
 

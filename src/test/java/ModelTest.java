@@ -67,6 +67,9 @@ public final class ModelTest {
         for (int i = 0; i < cabins; i++) {
             cabin();
         }
+        if (number % 4 == 2) {
+            crowd();
+        }
         while (left > 40) {
             any(number % 6 == 1 || number % 6 == 3 || number % 6 == 5);
         }
@@ -86,6 +89,23 @@ public final class ModelTest {
     private void cabin() {
         int beds = near(1, 8);
         due("cabin(" + beds + ")", x.cabin(beds), m.cabin(beds));
+    }
+
+    /** All that find a bed lie somewhere, many are barred, and then they are bettered. */
+    private void crowd() {
+        int many = m.kids.size();
+        for (int i = 0; i < many && m.beds.size() > 0; i++) {
+            int b = draw(many);
+            due("bar(" + i + ", " + b + ")", x.bar(i, b), m.bar(i, b));
+            int c = draw(m.beds.size());
+            due("lie(" + i + ", " + c + ")", x.lie(i, c), m.lie(i, c));
+        }
+        due("step()", x.step(), m.step());
+        due("better()", x.better(), m.better());
+        for (int i = 0; i < many; i++) {
+            due("tell(" + i + ", 3)", x.tell(i, 3), m.tell(i, 3));
+        }
+        due("cost(-1)", x.cost(-1), m.cost(-1));
     }
 
     private int kid() {

@@ -1,25 +1,43 @@
 import java.lang.management.ManagementFactory;
+import java.util.function.Consumer;
 
-/** All calls of a run live in one room: none makes anything but the constructor and the first image of each k. */
+/** All calls of a run live in one room, of 7.3 million fields and elements: what 512 calls make has to find place in it. */
 public final class RoomTest {
+    private static final int CALLS = 512;
+    /** How many of them a full camp takes at most. */
+    private static final int FULL = 200;
+    /** Of four bytes each. */
+    private static final long ROOM = 7300000L * 4;
+
     private static com.sun.management.ThreadMXBean beans;
 
     public static void main(String[] args) {
         beans = (com.sun.management.ThreadMXBean) ManagementFactory.getThreadMXBean();
-        // What the JVM makes for a call's first time is made by this one.
-        run(new TongueCamp());
-        long before = made();
-        TongueCamp x = new TongueCamp();
-        long constructor = made() - before;
-        Check.due("bytes that the constructor makes: " + constructor, constructor < 100000, true);
-        images(x);
-        before = made();
-        few(x);
-        x.again(1);
-        all(x);
-        long calls = made() - before;
-        // Here it is 0; the bound lets the JVM take a little on its own.
-        Check.due("bytes that calls make: " + calls, calls < 2000, true);
+        // What the machine makes for a call's first time is made by this one.
+        full();
+        stays("a full camp", x -> { });
+        stays("house()", TongueCamp::house);
+        stays("step()", TongueCamp::step);
+        stays("better()", TongueCamp::better);
+        stays("least()", TongueCamp::least);
+        stays("groups()", x -> x.groups(6, 1, 19));
+        stays("feed() and game()", x -> {
+            x.feed(0x6966206f, 0x776e3a67, 0x61696e20, 0x353b2020, 0x20202020);
+            x.game();
+        });
+        stays("said()", x -> x.said(3, 23, 5, true, false));
+        stays("night()", TongueCamp::night);
+        stays("paysSilence()", x -> x.paysSilence(3));
+        stays("watch()", x -> x.watch(14, 2, 2));
+        stays("met()", x -> x.met(12, 2, 20, 2));
+        stays("give()", TongueCamp::give);
+        stays("held()", x -> x.held(0));
+        stays("count()", x -> x.count(10));
+        stays("image() and again()", x -> {
+            x.image(2);
+            x.again(2);
+        });
+        few();
         Check.finish("RoomTest");
     }
 
@@ -27,65 +45,56 @@ public final class RoomTest {
         return beans.getThreadAllocatedBytes(Thread.currentThread().getId());
     }
 
-    private static void run(TongueCamp x) {
-        images(x);
-        few(x);
-        x.again(1);
-        all(x);
-    }
-
-    private static void images(TongueCamp x) {
-        for (int k = 0; k < 3; k++) {
-            x.image(k);
+    /** A full camp, then as many calls of a kind as are left. */
+    private static void stays(String what, Consumer<TongueCamp> call) {
+        long before = made();
+        TongueCamp x = full();
+        for (int i = 0; i < (CALLS - FULL) / 2; i++) {
+            call.accept(x);
         }
+        long bytes = made() - before;
+        Check.due("bytes that " + what + " makes: " + bytes, bytes < ROOM, true);
     }
 
-    private static void few(TongueCamp x) {
+    /** The least cost is for few children alone. */
+    private static void few() {
+        long before = made();
+        TongueCamp x = new TongueCamp();
         for (int i = 0; i < 7; i++) {
             x.child(i % 3, 9 + i, i == 4);
             x.cabin(2);
         }
-        x.least();
-        x.better();
+        for (int i = 0; i < CALLS - 14; i++) {
+            x.least();
+        }
+        long bytes = made() - before;
+        Check.due("bytes that least() makes: " + bytes, bytes < ROOM, true);
     }
 
-    private static void all(TongueCamp x) {
+    /** A camp with as many of all as there can be, by FULL calls at most. */
+    private static TongueCamp full() {
+        TongueCamp x = new TongueCamp();
         for (int i = 0; i < 24; i++) {
             x.child(i % 6, 8 + i % 10, i % 3 == 0);
+        }
+        for (int i = 0; i < 8; i++) {
             x.cabin(8);
-            x.helper(1 << i % 14);
+            x.helper(1 << i);
             x.host();
-            x.bar(i, 2 * i % 24);
+        }
+        for (int i = 0; i < 24; i++) {
+            x.bar(i, (i + 1) % 24);
             x.task(i, 1 + i % 10, i % 2 == 0);
             x.like(i % 8, i, i % 10);
             x.mark(i, i, 2 * i, i % 2);
+            x.lie(i, i / 8);
         }
-        x.house();
-        x.step();
-        x.lie(3, -1);
-        x.better();
-        x.cost(-1);
         x.groups(6, 1, 9);
-        x.feed(0x6966206f, 0x776e3a67, 0x61696e20, 0x353b2020, 0x20202020);
-        x.end(17);
-        x.game();
-        x.feed(0x6966206f, 0x776e3a67, 0x61696e20, 0x353b2020, 0x20202020);
-        x.game();
-        x.fault(1);
-        for (int i = 0; i < 24; i++) {
-            x.said(i, i, 2 * i, i % 2 == 0, true);
-            x.paysSilence(i);
-            x.tell(i, i % 15);
-            x.count(i % 13);
-            x.held(i % 5);
-            x.table(12, 2, i, i % 20);
-            x.met(12, 2, 20, i % 3);
-            x.watch(14, 2, i % 3);
-            x.watcher(i % 14);
-        }
-        x.night();
-        x.give();
+        Check.game(x, "if own and not helper:lose 5;if words>9 and not own:gain 2;".repeat(8));
+        x.image(0);
+        x.image(1);
         x.image(2);
-        x.again(2);
+        x.said(0, 5, 9, true, true);
+        return x;
     }
 }
