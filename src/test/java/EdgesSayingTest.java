@@ -29,7 +29,6 @@ public final class EdgesSayingTest {
         silentAsWhat();
         theNextDay();
         dayAfterDay();
-        lastDay();
         pays();
         paysAtTheMost();
         paysNobody();
@@ -443,6 +442,7 @@ public final class EdgesSayingTest {
         Check.due("hour 0 of it", x.count(6), 0);
     }
 
+    /** "NONE: it is DAY 9999": on none of the days that 512 calls come to. */
     private static void dayAfterDay() {
         TongueCamp x = new TongueCamp();
         for (int day = 0; day < 500; day++) {
@@ -450,33 +450,6 @@ public final class EdgesSayingTest {
         }
         Check.due("day 500", x.count(5), 500);
         Check.due("run of who comes", x.tell(x.child(0, 10, false), 10), 500);
-    }
-
-    /**
-     * "NONE: it is DAY 9999": no run that is promised comes to it. This one goes on behind its 512th call, for it is
-     * the only way to see that night ends there, and that nothing is changed by it.
-     */
-    private static void lastDay() {
-        TongueCamp x = two("");
-        for (int day = 0; day < 9997; day++) {
-            x.night();
-        }
-        Check.game(x, "if silent:gain 1;if day=9999:gain 100;");
-        Check.due("night of day 9997", x.night(), 2);
-        Check.due("night of day 9998", x.night(), 2);
-        Check.due("day 9999", x.count(5), 9999);
-        Check.due("tokens of two nights", x.tell(1, 9), 12);
-        Check.due("said on it", x.said(0, 6, 4, false, false), 112);
-        for (int times = 0; times < 2; times++) {
-            Check.due("night of day 9999", x.night(), -1);
-            Check.due("day 9999 still", x.count(5), 9999);
-            Check.due("hour 6 still", x.count(6), 6);
-            Check.due("four words still", x.tell(0, 11), 4);
-            Check.due("who said something still", x.tell(0, 13), 1);
-            Check.due("tokens still", x.tell(1, 9), 12);
-        }
-        Check.due("hour 5 is over", x.said(0, 5, 4, false, false), -1);
-        Check.due("run of it", x.tell(1, 10), 9999);
     }
 
     // Promise 19: "if it would have more TOKENS by being silent today (asked as that, now) than it has"

@@ -12,7 +12,7 @@ public final class ModelTest {
     private String run;
 
     public static void main(String[] args) {
-        int runs = args.length > 0 ? Integer.parseInt(args[0]) : 260;
+        int runs = args.length > 0 ? Integer.parseInt(args[0]) : 400;
         for (int i = 0; i < runs; i++) {
             new ModelTest().go(i);
         }

@@ -1,13 +1,13 @@
 import java.lang.management.ManagementFactory;
 import java.util.function.Consumer;
 
-/** All calls of a run live in one room, of 7.3 million fields and elements: what 512 calls make has to find place in it. */
+/** All calls of a run live in one room, of 600,000 objects with 7.3 million fields and elements: 512 calls make no more. */
 public final class RoomTest {
     private static final int CALLS = 512;
     /** How many of them a full camp takes at most. */
     private static final int FULL = 200;
-    /** Of four bytes each. */
-    private static final long ROOM = 7300000L * 4;
+    /** In bytes, sixteen for each object and eight for each element: what makes more has no place in the room. */
+    private static final long ROOM = 600000L * 16 + 7300000L * 8;
 
     private static com.sun.management.ThreadMXBean beans;
 
