@@ -1,3 +1,5 @@
+import java.util.function.Supplier;
+
 /** Edges of promises 6 to 10, sentence by sentence: costs, housing, steps, the least cost. */
 public final class EdgesHousingTest {
     public static void main(String[] args) {
@@ -512,34 +514,58 @@ public final class EdgesHousingTest {
         }
     }
 
-    /** However many steps there are: eight of one tongue in each of three cabins, and three cabins free. */
+    /** However many steps there are: of better() as many as step() does, and all lie as they do then. */
     private static void manySteps() {
-        TongueCamp x = eights();
-        TongueCamp y = eights();
-        int steps = 0;
+        // Two of each tongue in two cabins and one in the four others is the least for eight of three tongues.
+        sameSteps("eight of a tongue, three times", EdgesHousingTest::eights, 15, 3 * 28 * 30, 3 * 2 * 30);
+        sameSteps("four of a tongue, six times", EdgesHousingTest::fours, 9, 6 * 6 * 30, 0);
+        sameSteps("each barred from the next", EdgesHousingTest::bars24, 23, bars24().cost(-1), 20);
+    }
+
+    private static void sameSteps(String what, Supplier<TongueCamp> made, int steps, int before, int behind) {
+        TongueCamp x = made.get();
+        TongueCamp y = made.get();
         int cost = y.cost(-1);
-        Check.due("eight of a tongue, three times", cost, 3 * 28 * 30);
+        Check.due(what + ": cost", cost, before);
+        int many = 0;
         for (int less = y.step(); less > 0; less = y.step()) {
-            steps++;
+            many++;
             cost -= less;
-            Check.due("cost behind step " + steps, y.cost(-1), cost);
+            Check.due(what + ": cost behind step " + many, y.cost(-1), cost);
         }
-        Check.due("two of each tongue in two cabins, one in the others", cost, 3 * 2 * 30);
-        Check.due("many steps", steps, 15);
-        Check.due("better() of as many", x.better(), steps);
+        Check.due(what + ": steps", many, steps);
+        Check.due(what + ": cost behind them", cost, behind);
+        Check.due(what + ": better()", x.better(), steps);
         for (int i = 0; i < 24; i++) {
-            Check.due("cabin of " + i + " behind many steps", x.tell(i, 3), y.tell(i, 3));
+            Check.due(what + ": cabin of " + i, x.tell(i, 3), y.tell(i, 3));
         }
-        // Exchanges alone: four of a tongue in each of six cabins without a free bed.
-        TongueCamp z = new TongueCamp();
+        Check.due(what + ": nothing is left", x.better(), 0);
+    }
+
+    /** Four of each tongue in a cabin without a free bed: exchanges alone. */
+    private static TongueCamp fours() {
+        TongueCamp x = new TongueCamp();
         for (int i = 0; i < 24; i++) {
-            z.child(i / 4, 10, false);
-            z.cabin(4);
-            z.lie(i, i / 4);
+            x.child(i / 4, 10, false);
+            x.cabin(4);
+            x.lie(i, i / 4);
         }
-        Check.due("cost of fours", z.cost(-1), 6 * 6 * 30);
-        Check.due("exchanges alone", z.better(), 9);
-        Check.due("no two of a tongue together", z.cost(-1), 0);
+        return x;
+    }
+
+    private static TongueCamp bars24() {
+        TongueCamp x = new TongueCamp();
+        for (int beds : new int[] {8, 7, 8, 8, 6, 4}) {
+            x.cabin(beds);
+        }
+        for (int i = 0; i < 24; i++) {
+            x.child(i % 4, 8 + (i + 3) % 10, i % 2 == 0);
+            x.lie(i, 6 * i / 4 % 6);
+        }
+        for (int i = 0; i < 24; i++) {
+            x.bar(i, (i + 23) % 24);
+        }
+        return x;
     }
 
     private static TongueCamp eights() {
